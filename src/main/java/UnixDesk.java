@@ -179,7 +179,6 @@ public final class UnixDesk {
         greatestPid = FIRST_PID;
         latestPid = 0;
         lastSlot = SLOTS - 1;
-        sliceSteps = 0;
         beginProcess(0, FIRST_PID, 0);
         for (int d = 0; d < DESCRIPTORS; d++) {
             held[d] = NONE;

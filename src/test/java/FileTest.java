@@ -132,6 +132,22 @@ public final class FileTest {
         Check.due("CHANGES", 4, x.total(7));
     }
 
+    /** Words of the second file, one behind the other. */
+    private static void readsOn() {
+        UnixDesk x = new UnixDesk();
+        Code.runToEnd(x, Code.call(Code.OPEN, 0, 6), Code.call(Code.WRITE, 0, 1), Code.call(Code.OPEN, 1, 6),
+            Code.call(Code.WRITE, 1, 10), Code.call(Code.WRITE, 1, 20), Code.call(Code.WRITE, 1, 30));
+        Code.boot(x, Code.call(Code.OPEN, 1, 1), Code.set(0, 0), Code.call(Code.READ), Code.go(3));
+        // Two steps of OPEN first: each three steps then end with a READ.
+        Check.due("run", 2, x.run(2));
+        int[] due = {10, 20, 30};
+        for (int word : due) {
+            Check.due("run", 3, x.run(3));
+            Check.due("READ gives 1", 1, x.process(1, 10));
+            Check.due("the word", word, x.process(1, 11));
+        }
+    }
+
     private static void seeks() {
         int[][] due = {{-1, -1}, {0, 0}, {1, 0}, {2, 0}, {3, -1}, {16, -1}, {Integer.MIN_VALUE, -1}};
         for (int[] d : due) {
@@ -294,6 +310,19 @@ public final class FileTest {
         Check.due("open files", 2, x.total(8));
     }
 
+    /** Process 1 has no free descriptor, process 2 behind it has all free. */
+    private static void sixDescriptors() {
+        UnixDesk x = Code.booted(
+            Code.call(Code.FORK), Code.zero(0, 10), Code.call(Code.PIPE), Code.call(Code.PIPE), Code.call(Code.PIPE),
+            Code.call(Code.DUP, 0), Code.call(Code.OPEN, 0, 7), Code.go(10));
+        Check.due("run", 5 + 5 + 2, x.run(12));
+        Check.due("DUP", -1, x.process(1, 10));
+        Check.due("run", 3, x.run(3));
+        Check.due("OPEN", -1, x.process(1, 10));
+        Check.due("process 2 has none", 0, x.descriptor(2, 0, 0));
+        Check.due("files", 8, x.total(3));
+    }
+
     private static void links() {
         UnixDesk x = Code.booted(
             Code.call(Code.OPEN, 2, 7), Code.call(Code.LINK, 2, 5), Code.call(Code.UNLINK, 2), Code.call(Code.WRITE, 0, 4),
@@ -401,6 +430,7 @@ public final class FileTest {
         modes();
         uses();
         places();
+        readsOn();
         seeks();
         fullFile();
         blocksBySize();
@@ -409,6 +439,7 @@ public final class FileTest {
         behindTheSize();
         sharedOpenFile();
         leastDescriptors();
+        sixDescriptors();
         links();
         badLinks();
         leastFile();

@@ -47,9 +47,9 @@ public final class MemoryTest {
     private static void zeros() {
         UnixDesk x = Code.booted(
             Code.call(Code.FORK), Code.zero(0, 6), Code.call(Code.WAIT), Code.call(Code.GROW, 7), Code.go(5),
-            Code.call(Code.GROW, 7), Code.set(2, 1), Code.set(1, 4), Code.store(1, 2), Code.add(2, 1), Code.set(3, 31),
-            Code.less(3, 2), Code.zero(3, 10));
-        Check.due("run", 80, x.run(80));
+            Code.call(Code.GROW, 7), Code.set(1, 1), Code.store(1, 2), Code.add(2, 1), Code.set(3, 31), Code.less(3, 2),
+            Code.zero(3, 9));
+        Check.due("run", 3 + 4 + 32 * 5 + 1 + 4, x.run(3 + 4 + 32 * 5 + 1 + 4));
         Check.due("pages", 8, x.process(1, 4));
         for (int address = 0; address < 32; address++) {
             Check.due("memory " + address, 0, x.memory(1, address));
@@ -78,14 +78,14 @@ public final class MemoryTest {
             Code.call(Code.FORK), Code.load(3, 1), Code.zero(3, 0), Code.go(8), Code.go(8));
         Check.due("LOAD", 2, x.process(2, 13));
         Check.due("shared yet", 2, x.sharing(1, 0));
-        UnixDesk y = Code.after(8, Code.set(1, 2), Code.store(1, 1), Code.set(2, 3), Code.store(2, 2),
-            Code.call(Code.FORK), Code.store(2, 1), Code.go(6));
-        Check.due("written word", 3, y.memory(2, 2));
-        Check.due("word that came along", 3, y.memory(2, 3));
-        Check.due("zero that came along", 0, y.memory(2, 0));
-        Check.due("word of the other one", 2, y.memory(1, 2));
-        Check.due("the writer copied", 1, y.process(2, 8));
-        Check.due("the other one did not", 0, y.process(1, 8));
+        UnixDesk y = Code.after(8, Code.set(1, 2), Code.store(1, 1), Code.set(2, 3), Code.store(2, 2), Code.store(1, 3),
+            Code.call(Code.FORK), Code.store(2, 1), Code.go(7));
+        Check.due("written word", 3, y.memory(1, 2));
+        Check.due("words that came along", 2, y.memory(1, 0));
+        Check.due("words that came along", 0, y.memory(1, 1));
+        Check.due("words that came along", 3, y.memory(1, 3));
+        Check.due("the writer copied", 1, y.process(1, 8));
+        Check.due("word of the other one", 2, y.memory(2, 2));
     }
 
     /** The last one that has a frame writes to it without a copy; what 8 counts one page as often as it is copied. */

@@ -55,6 +55,46 @@ public final class ProcessTest {
         registers("child", x, 2, 0, 7, 8, 9);
     }
 
+    private static void forkKeepsProgram() {
+        UnixDesk x = new UnixDesk();
+        Code.program(x, 3, Code.call(Code.FORK), Code.go(1));
+        Check.due("boot", true, x.boot(3));
+        Check.due("run", 1, x.run(1));
+        state("child of program 3", x, 2, 1, 1, 3, 1, 1, 0, 1, 0, 0);
+    }
+
+    /** Of an earlier process in its slot a new one has nothing: no status, no counts, no SLEEP. */
+    private static void slotIsUsedAgain() {
+        UnixDesk x = Code.booted(
+            Code.call(Code.FORK), Code.zero(0, 6), Code.call(Code.WAIT), Code.call(Code.FORK), Code.zero(0, 12),
+            Code.go(5), Code.store(1, 1), Code.set(0, 9), Code.call(Code.EXIT));
+        Check.due("run", 7, x.run(7));
+        state("first child", x, 2, 3, 1, 0, 9, 0, 9, 1, 4, 1);
+        Check.due("run", 2, x.run(2));
+        state("second child", x, 3, 1, 1, 0, 4, 1, 0, 1, 0, 0);
+
+        UnixDesk y = Code.booted(
+            Code.call(Code.FORK), Code.zero(0, 9), Code.call(Code.SLEEP, 5), Code.call(Code.KILL, 2), Code.call(Code.WAIT),
+            Code.call(Code.FORK), Code.zero(0, 9), Code.call(Code.SLEEP, 7), Code.go(11));
+        Check.due("run", 12, y.run(12));
+        Check.due("the new one", 3, y.total(10));
+        Check.due("in the slot of the old one", 1, y.process(3, 6));
+        Check.due("run", 200, y.run(200));
+        Check.due("SLEEP took two steps", 11, y.process(3, 3));
+    }
+
+    /** Process 1 is gone, and a child of process 2 has its slot 0. */
+    private static void childInSlotZero() {
+        UnixDesk x = Code.booted(
+            Code.call(Code.FORK), Code.zero(0, 3), Code.call(Code.EXIT), Code.call(Code.FORK), Code.zero(0, 7),
+            Code.call(Code.WAIT), Code.go(6), Code.set(0, 12), Code.call(Code.EXIT));
+        Check.due("run", 3 + 4, x.run(7));
+        Check.due("slot", 0, x.process(3, 6));
+        Check.due("WAIT is blocked", 2, x.process(2, 0));
+        Check.due("run", 3 + 1, x.run(4));
+        registers("WAIT", x, 2, 3, 12, 0, 0);
+    }
+
     private static void notWithEight() {
         UnixDesk x = Code.booted(Code.call(Code.FORK), Code.zero(0, 3), Code.go(0), Code.go(3));
         Check.due("run", 200, x.run(200));
@@ -295,10 +335,12 @@ public final class ProcessTest {
             Check.due("no block", 1, x.process(1, 0));
         }
         UnixDesk zero = Code.after(3, Code.call(Code.SLEEP, 0), Code.go(2));
+        Check.due("SLEEP 0 gives 0", 0, zero.process(1, 10));
         Check.due("SLEEP 0 is done at once", 2, zero.process(1, 3));
         Check.due("TIME", 3, zero.total(5));
         UnixDesk most = Code.after(3, Code.call(Code.SLEEP, 1000), Code.go(2));
         Check.due("SLEEP 1000", 1003, most.total(5));
+        Check.due("SLEEP 1000 gives 0", 0, most.process(1, 10));
         UnixDesk one = Code.after(3, Code.call(Code.SLEEP, 1), Code.go(2));
         Check.due("SLEEP 1", 4, one.total(5));
         UnixDesk twice = Code.after(6, Code.call(Code.SLEEP, 10), Code.call(Code.SLEEP, 10), Code.go(4));
@@ -320,6 +362,9 @@ public final class ProcessTest {
         questions();
         instructions();
         forks();
+        forkKeepsProgram();
+        slotIsUsedAgain();
+        childInSlotZero();
         notWithEight();
         exits();
         badAddressKills();
