@@ -2,14 +2,20 @@
 final class Check {
     private static int checked = 0;
     private static int wrong = 0;
+    private static String sentence = "";
 
     private Check() { }
+
+    /** The words of the document that the next answers are about. */
+    static void sentence(String words) {
+        sentence = "\"" + words + "\": ";
+    }
 
     static void due(String what, long want, long got) {
         checked++;
         if (got != want) {
             wrong++;
-            System.out.println(what + " answered " + got + ", due is " + want);
+            System.out.println(sentence + what + " answered " + got + ", due is " + want);
         }
     }
 
