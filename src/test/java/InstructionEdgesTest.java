@@ -68,6 +68,23 @@ public final class InstructionEdgesTest {
         }
     }
 
+    /** Process 2 has a page of its own, and the words of other pages around it. */
+    private static void wordsAround() {
+        Check.sentence("or an address is not within its pages, the process is KILLED: that is EXIT with status -1.");
+        for (int address : new int[] {-1, 4}) {
+            for (int op = 4; op <= 5; op++) {
+                // Words 0 and 3 of both are 3; those of process 2 come to a page of its own by the STORE at 6.
+                Story before = Story.boot(Code.set(1, 3), Code.store(1, 1), Code.store(1, 2), Code.call(Code.FORK),
+                    Code.zero(0, 6), Code.call(Code.WAIT), Code.store(1, 2), Code.set(3, address), new int[] {op, 2, 3})
+                    .until(2, 8);
+                Check.due("a page of its own", 1, before.told().sharing(2, 0));
+                Check.due("memory(2, " + address + ")", 0, before.told().memory(2, address));
+                Look due = Look.at(before).went(2).zombie(2, -1).but(Look.process(1, 0), 1).more(Look.total(1), 1);
+                due.due("op " + op + " at " + address, before.run(1));
+            }
+        }
+    }
+
     private static void loads() {
         Check.sentence("4 LOAD A = the word at address B  5 STORE that word = A");
         for (int address = 0; address < 32; address++) {
@@ -118,6 +135,7 @@ public final class InstructionEdgesTest {
         less();
         oneRegister();
         addresses();
+        wordsAround();
         loads();
         zero();
         behindTheLast();

@@ -89,6 +89,36 @@ public final class PageEdgesTest {
         due.due("STORE of process 4 with none FREE", child.run(1));
     }
 
+    private static void sameWords() {
+        Check.sentence("gets a FREE one, with the same words, first.");
+        for (int address = 0; address < 4; address++) {
+            // Words 0 to 3 are 5 to 8, in one page of processes 1 and 2.
+            int[][] words = {Code.set(1, 1), Code.set(3, 5)};
+            for (int k = 0; k < 4; k++) words = Code.join(words, Code.store(3, 2), Code.add(2, 1), Code.add(3, 1));
+            Story before = Story.boot(words, Code.call(Code.FORK), Code.zero(0, 17), Code.call(Code.WAIT), Code.set(2, address),
+                Code.set(3, 99), Code.store(3, 2)).until(2, 19);
+            for (int k = 0; k < 4; k++) Check.due("word " + k, 5 + k, before.told().memory(2, k));
+            Look due = Look.at(before).went(2).but(Look.memory(2, address), 99).but(Look.process(2, 8), 1);
+            due = due.more(Look.total(1), -1).but(Look.sharing(1, 0), 1).but(Look.sharing(2, 0), 1);
+            due.due("STORE at " + address, before.run(1));
+        }
+    }
+
+    private static void zeros() {
+        Check.sentence("4 GROW by R0 (0..7) pages of zeros: gives how many it had.");
+        // All 32 words are ones, then the frames are FREE, and come again.
+        Story ones = Story.begin().program(5, (Object) GROW_7).program(0, GROW_7, Code.set(1, 1), Code.store(1, 2),
+            Code.add(2, 1), Code.set(3, 32), Code.sub(3, 2), Code.zero(3, 9), Code.go(3), Code.call(Code.EXEC, 5)).boot(0)
+            .run(3 + 32 * 6 - 1 + 1);
+        for (int address = 0; address < 32; address++) Check.due("word " + address, 1, ones.told().memory(1, address));
+        executed(Look.at(ones), 1, 5).but(Look.total(1), 19).due("EXEC", ones.run(1));
+        Story grows = ones.run(2);
+        grown(grows, 7).due("GROW", grows.run(1));
+        UnixDesk x = ones.crash(1).boot(5).run(2).told();
+        Check.due("pages", 8, x.process(1, 4));
+        for (int address = 0; address < 32; address++) Check.due("word " + address, 0, x.memory(1, address));
+    }
+
     private static void noFrameNeeded() {
         Check.sentence("A page that is written to (STORE) while another one has its frame, too");
         Story own = frames(Code.call(Code.GROW, 3), Code.set(3, 77), Code.store(3, 1), Code.go(15)).run(3);
@@ -196,6 +226,8 @@ public final class PageEdgesTest {
         grows();
         framesRunOut();
         storesToShared();
+        sameWords();
+        zeros();
         noFrameNeeded();
         forks();
         copiesCount();

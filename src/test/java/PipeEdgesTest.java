@@ -43,6 +43,17 @@ public final class PipeEdgesTest {
                 Edge.refused(used + " are used", before, 1);
             }
         }
+        // The same while the processes in the next slots have all descriptors free.
+        Object[] none = {};
+        int[][] calls = {{Code.PIPE, 0, 0}, {Code.DUP, 0, 0}, {Code.OPEN, 0, 7}};
+        for (int[] c : calls) {
+            Story full = Story.three(none, none, pipes(3), Code.call(c[0], c[1], c[2])).run(5);
+            Edge.refused("call " + c[0] + " with six", full, 1);
+        }
+        for (int d = 0; d <= 5; d++) {
+            Story one = Story.three(none, none, pipes(3), Code.call(Code.CLOSE, d), Code.call(Code.PIPE)).run(5);
+            Edge.refused("PIPE with " + d + " free", one, 1);
+        }
         Check.sentence("6 PIPE: the two least free descriptors, R0 and R1, are the ends of a new pipe for reading and writing.");
         int[][] closed = {{0, 1}, {1, 4}, {0, 5}, {4, 5}, {2, 3}};
         for (int[] c : closed) {
@@ -96,6 +107,42 @@ public final class PipeEdgesTest {
         Check.due("12, and FORK", 4, x.total(0));
         Check.due("open files", 12, x.total(8));
         Check.due("holders", 4, x.descriptor(4, 1, 3));
+    }
+
+    /**
+     * Process 1 opened the eldest open file, that it closes as the last thing; processes 2 and 3 opened so many then.
+     * A call is next.
+     */
+    private static Story eldestIsClosed(int others, int[][] call) {
+        int[][] close = Code.call(Code.CLOSE, 0);
+        int[][] sleep = Code.call(Code.SLEEP, 1000);
+        Story story = Story.begin().program(1, close, opens(6), sleep).program(2, close, opens(others - 6), sleep)
+            .program(0, Code.set(1, 7), Code.call(Code.OPEN), Code.call(Code.FORK), Code.zero(0, 11), Code.call(Code.FORK),
+                Code.zero(0, 13), Code.call(Code.SLEEP, 200), Code.call(Code.CLOSE), Code.set(2, 0), Code.go(15),
+                Code.call(Code.EXEC, 1), Code.call(Code.EXEC, 2), call).boot(0).until(1, 14 + call.length);
+        Check.due("open files", others, story.told().total(8));
+        return story;
+    }
+
+    private static void anyTwoOpenFiles() {
+        Check.sentence("There are at most 12 open files, each end is one.");
+        Story ten = eldestIsClosed(10, new int[][] {Code.call(Code.PIPE)});
+        piped(ten, 0, 1).due("10, and two ends", ten.run(1));
+        Edge.refused("11, and no two ends", eldestIsClosed(11, new int[][] {Code.call(Code.PIPE)}), 1);
+        Story eleven = eldestIsClosed(11, Code.call(Code.OPEN, 0, 3)).run(1);
+        Check.due("11, and OPEN", 0, eleven.told().process(1, 10));
+        Check.due("12", 12, eleven.told().total(8));
+    }
+
+    private static void newIsEmpty() {
+        Check.sentence("are the ends of a new pipe for reading and writing.");
+        for (int words = 1; words <= 4; words++) {
+            int[][] code = {Code.call(Code.PIPE)};
+            for (int k = 0; k < words; k++) code = Code.join(code, Code.set(0, 1), Code.call(Code.WRITE));
+            Story before = Story.boot(code, Code.call(Code.CLOSE, 0), Code.call(Code.CLOSE, 1), Code.call(Code.PIPE),
+                Code.call(Code.READ)).run(2 * words + 6);
+            Edge.blocks("a new pipe behind one with " + words + " words", before, 1);
+        }
     }
 
     private static void noMore() {
@@ -157,6 +204,13 @@ public final class PipeEdgesTest {
             }
         }
         Check.sentence("DUP gives the descriptor that it took.");
+        for (int d = 0; d <= 5; d++) {
+            Story one = Story.boot(opens(6), Code.call(Code.CLOSE, d), Code.call(Code.DUP, (d + 1) % 6)).run(16);
+            Look due = Look.at(one).gave(1, d).but(Look.descriptor(1, (d + 1) % 6, 3), 2);
+            int[] same = {1, 0, 0, 2};
+            for (int what = 0; what <= 3; what++) due = due.but(Look.descriptor(1, d, what), same[what]);
+            due.due("only " + d + " is free", one.run(1));
+        }
         Story between = Story.boot(opens(6), Code.call(Code.CLOSE, 2), Code.call(Code.CLOSE, 4), Code.call(Code.DUP, 5),
             Code.call(Code.DUP, 5), Code.call(Code.DUP, 5)).run(19);
         UnixDesk x = between.told();
@@ -274,6 +328,8 @@ public final class PipeEdgesTest {
         descriptors();
         fourPipes();
         twelveOpenFiles();
+        anyTwoOpenFiles();
+        newIsEmpty();
         noMore();
         notForThis();
         dups();

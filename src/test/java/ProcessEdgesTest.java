@@ -148,6 +148,13 @@ public final class ProcessEdgesTest {
             all = all.run(2);
         }
         Edge.refused("all are waited for", all, 1);
+        // Process 1 is no more, and process 3 has slot 0.
+        Story zero = Story.boot(Code.call(Code.FORK), Code.zero(0, 3), Code.call(Code.EXIT), Code.call(Code.FORK),
+            Code.zero(0, 6), Code.call(Code.WAIT), Code.call(Code.EXIT, 9)).until(2, 5);
+        Check.due("slot of 3", 0, zero.told().process(3, 6));
+        Edge.blocks("its child in slot 0 is READY", zero, 2);
+        Story ended = zero.run(4);
+        Look.at(ended).gave(2, 3).but(Look.process(2, 11), 9).gone(3).due("its child in slot 0 is a ZOMBIE", ended.run(1));
         // Process 9 has a slot before that of 7, but a greater pid.
         Story slots = Story.eight(SLEEPING, Code.call(Code.KILL, 3), Code.call(Code.WAIT), Code.call(Code.FORK),
             Code.zero(0, 8), Code.call(Code.KILL, 9), Code.call(Code.KILL, 7), Code.call(Code.WAIT),
@@ -211,6 +218,14 @@ public final class ProcessEdgesTest {
             Look due = Look.at(asleep).gave(1, 0).but(Look.process(1, 0), 1).more(Look.total(5), length);
             due.due("behind SLEEP " + length, asleep.run(1));
         }
+        // Process 3 has the slot of process 2, which was KILLED in a longer SLEEP.
+        Story slot = Story.boot(Code.call(Code.FORK), Code.zero(0, 9), Code.call(Code.SLEEP, 5), Code.call(Code.KILL, 2),
+            Code.call(Code.WAIT), Code.call(Code.FORK), Code.zero(0, 11), SLEEPING, Code.call(Code.SLEEP, 7)).until(3, 12);
+        Check.due("slot", 1, slot.told().process(3, 6));
+        Edge.blocks("SLEEP in a slot that was used", slot, 3);
+        // In the three steps behind that process 1 falls asleep.
+        Look woken = Look.at(slot.run(4)).gave(3, 0).but(Look.process(3, 0), 1).more(Look.total(5), 7 - 3);
+        woken.due("behind it", slot.run(5));
         // Process 1 sleeps at TIME 4, process 2 makes each TIME of the next ones.
         for (int length = 1; length <= 12; length++) {
             Story asleep = Story.boot(Code.call(Code.FORK), Code.zero(0, 4), Code.call(Code.SLEEP, length), Code.go(4)).run(4);

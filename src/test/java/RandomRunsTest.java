@@ -3,10 +3,16 @@ import java.util.List;
 import java.util.Map;
 import java.util.Random;
 import java.util.TreeMap;
+import java.util.function.ToIntFunction;
 
-/** All promises: random programs on the class and on Model must look the same from outside at every stop. */
+/**
+ * All promises: random programs on the class and on Model must look the same from outside, wherever they stop. No
+ * object is called more than the promised 512 times: when one is, a new one is told all that was done.
+ */
 public final class RandomRunsTest {
     private static final int RUNS = 10000;
+    /** A run ends here, so that calls are left for questions. */
+    private static final int DONE_LIMIT = 360;
 
     /** What the runs must have come to, for this test to say something about it. */
     private static final String[] RARE = {
@@ -33,13 +39,32 @@ public final class RandomRunsTest {
     private static long compared = 0;
 
     private final Random random;
-    private final UnixDesk x = new UnixDesk();
+    private final List<ToIntFunction<UnixDesk>> done = new ArrayList<>();
     private final Model m = new Model();
     private final String run;
+    private UnixDesk object = new UnixDesk();
+    private int calls = 0;
 
     private RandomRunsTest(int seed) {
         random = new Random(seed);
         run = "run " + seed + ": ";
+    }
+
+    /** The object, for one call. */
+    private UnixDesk x() {
+        if (calls == Story.CALL_LIMIT) {
+            object = new UnixDesk();
+            for (ToIntFunction<UnixDesk> call : done) call.applyAsInt(object);
+            calls = done.size();
+        }
+        calls++;
+        return object;
+    }
+
+    /** A call that changes something, with the model's answer. */
+    private void does(String what, int due, ToIntFunction<UnixDesk> call) {
+        Check.due(run + what, due, call.applyAsInt(x()));
+        done.add(call);
     }
 
     private int pick(int... of) {
@@ -173,10 +198,10 @@ public final class RandomRunsTest {
     }
 
     private void writeProgram(int program) {
-        Check.due(run + "clear", m.clear(program), x.clear(program));
+        does("clear", m.clear(program), x -> x.clear(program));
         List<int[]> code = random.nextBoolean() ? template() : freeProgram();
         for (int[] c : code) {
-            Check.due(run + "add", m.add(program, c[0], c[1], c[2]), x.add(program, c[0], c[1], c[2]));
+            does("add", m.add(program, c[0], c[1], c[2]), x -> x.add(program, c[0], c[1], c[2]));
         }
     }
 
@@ -188,58 +213,65 @@ public final class RandomRunsTest {
 
     private void compareProcess(int pid) {
         for (int what = -1; what < 15; what++) {
-            same("process", pid, what, m.process(pid, what), x.process(pid, what));
+            same("process", pid, what, m.process(pid, what), x().process(pid, what));
         }
         for (int address = -1; address < 33; address++) {
-            same("memory", pid, address, m.memory(pid, address), x.memory(pid, address));
+            same("memory", pid, address, m.memory(pid, address), x().memory(pid, address));
         }
         for (int page = -1; page < 9; page++) {
-            same("sharing", pid, page, m.sharing(pid, page), x.sharing(pid, page));
+            same("sharing", pid, page, m.sharing(pid, page), x().sharing(pid, page));
         }
         for (int d = -1; d < 7; d++) {
             for (int what = -1; what < 5; what++) {
-                same("descriptor", 10 * pid + d, what, m.descriptor(pid, d, what), x.descriptor(pid, d, what));
+                same("descriptor", 10 * pid + d, what, m.descriptor(pid, d, what), x().descriptor(pid, d, what));
             }
         }
     }
 
     private void compareFiles() {
         for (int k = -1; k < 9; k++) {
-            same("name", k, 0, m.name(k), x.name(k));
-            for (int what = -1; what < 4; what++) same("file", k, what, m.file(k, what), x.file(k, what));
-            for (int w = -1; w < 17; w++) same("word", k, w, m.word(k, w), x.word(k, w));
+            same("name", k, 0, m.name(k), x().name(k));
+            for (int what = -1; what < 4; what++) same("file", k, what, m.file(k, what), x().file(k, what));
+            for (int w = -1; w < 17; w++) same("word", k, w, m.word(k, w), x().word(k, w));
         }
     }
 
     private void compare() {
-        for (int what = -1; what < 12; what++) same("total", what, 0, m.total(what), x.total(what));
-        for (int k = -1; k < 17; k++) same("said", k, 0, m.said(k), x.said(k));
+        for (int what = -1; what < 12; what++) same("total", what, 0, m.total(what), x().total(what));
+        for (int k = -1; k < 17; k++) same("said", k, 0, m.said(k), x().said(k));
         compareFiles();
         int greatest = m.total(10);
         for (int pid = -1; pid < 3; pid++) compareProcess(pid);
         for (int pid = Math.max(3, greatest - 12); pid <= greatest + 1; pid++) compareProcess(pid);
     }
 
+    private void stop() {
+        if (random.nextInt(3) == 0) compare();
+    }
+
     private void go() {
-        for (int boot = 0; boot < 4; boot++) {
-            for (int program = 0; program < 6; program++) {
+        for (int boot = 0; boot < 4 && done.size() < DONE_LIMIT; boot++) {
+            for (int program = 0; program < 6 && done.size() < DONE_LIMIT; program++) {
                 if (boot == 0 || random.nextInt(3) == 0) writeProgram(program);
             }
             int program = random.nextInt(20) == 0 ? pick(-1, 6) : random.nextInt(6);
-            Check.due(run + "boot", m.boot(program), x.boot(program));
-            compare();
+            does("boot", m.boot(program) ? 1 : 0, x -> x.boot(program) ? 1 : 0);
+            stop();
             int stops = random.nextInt(14);
             for (int k = 0; k < stops; k++) {
                 int n = random.nextInt(25) == 0 ? pick(-1, 0, 201) : pick(1, 1, 2, 3, 5, 8, 30, 200);
-                Check.due(run + "run(" + n + ")", m.run(n), x.run(n));
-                compare();
+                does("run(" + n + ")", m.run(n), x -> x.run(n));
+                stop();
             }
-            Check.due(run + "add", m.add(boot, 0, 0, 0), x.add(boot, 0, 0, 0));
+            int last = boot;
+            does("add", m.add(last, 0, 0, 0), x -> x.add(last, 0, 0, 0));
             if (m.total(0) > 0 || random.nextInt(3) == 0) {
-                Check.due(run + "crash", m.crash(), x.crash());
-                compare();
+                does("crash", m.crash(), UnixDesk::crash);
+                stop();
             }
         }
+        compare();
+        Check.due(run + "calls are left", true, done.size() < Story.CALL_LIMIT - 50);
     }
 
     public static void main(String[] args) {

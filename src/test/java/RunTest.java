@@ -119,20 +119,6 @@ public final class RunTest {
         Check.due("TIME", 3, x.total(5));
     }
 
-    /** Not to be reached in 512 calls, but told by the document all the same. */
-    private static void timeLimit() {
-        UnixDesk x = Code.booted(Code.set(0, 1000), Code.call(Code.SLEEP), Code.go(0));
-        int calls = 0;
-        while (x.total(5) <= 1000000000 && calls < 30000) {
-            Check.due("run", 200, x.run(200));
-            calls++;
-        }
-        int time = x.total(5);
-        Check.due("TIME is above the limit", true, time > 1000000000);
-        Check.due("run", UnixDesk.BAD, x.run(1));
-        Check.due("TIME stays", time, x.total(5));
-    }
-
     public static void main(String[] args) {
         numberOfSteps();
         fiveStepsEach();
@@ -143,7 +129,6 @@ public final class RunTest {
         sameProcessGoesOnBehindASkip();
         noSkipWhileOneIsReady();
         ends();
-        timeLimit();
         Check.finish();
     }
 }

@@ -79,11 +79,19 @@ public final class TurnEdgesTest {
         Check.sentence("from slot 7 at first");
         Story boot = Story.boot(Code.go(0));
         order("slot 0", boot, 1, 1, 1, 1, 1, 1);
-        Story crashed = Story.boot(Code.call(Code.FORK), Code.go(1)).run(7).crash(2).boot(0);
-        order("slot 7 is the one before, also behind a crash", crashed, 1, 1, 1, 1, 1, 2, 2, 2, 2, 2, 1);
-        Story ended = Story.boot(Code.call(Code.FORK), Code.zero(0, 4), Code.call(Code.WAIT), Code.go(3), Code.call(Code.EXIT))
-            .run(6).crash(1).boot(0);
-        order("behind an end", ended, 1, 1, 1, 2, 2, 1, 1);
+        Check.sentence("slot 7 is the one before: true.");
+        // However many steps a process in slot 0 or 1 did since it was chosen: behind a boot there are five again.
+        for (int steps = 2; steps <= 12; steps++) {
+            Story crashed = Story.boot(Code.call(Code.FORK), Code.go(1)).run(steps).crash(2).boot(0);
+            order("behind " + steps + " steps and a crash", crashed, 1, 1, 1, 1, 1, 2, 2, 2, 2, 2, 1);
+        }
+        for (int steps = 1; steps <= 7; steps++) {
+            int[][] code = {};
+            for (int k = 1; k < steps; k++) code = Code.join(code, Code.set(0, 0));
+            Story ended = Story.begin().program(1, Code.call(Code.FORK), Code.go(1)).program(0, (Object) code).boot(0)
+                .run(200, steps).boot(1);
+            order("behind an end with " + steps + " steps", ended, 1, 1, 1, 1, 1, 2, 2, 2, 2, 2, 1);
+        }
     }
 
     /** Processes 2, 3 and 4 sleep, are ZOMBIES or spin; the turn goes from 1 over those that are not READY. */
@@ -115,6 +123,13 @@ public final class TurnEdgesTest {
         // One of them is READY: no skip.
         Story ready = Story.boot(Code.call(Code.FORK), Code.zero(0, 5), Code.call(Code.SLEEP, 500), Code.go(4), Code.go(5));
         Check.due("TIME", 200, ready.run(200).told().total(5));
+        // Those that slept before a crash are no more: TIME does not skip to when they would be READY.
+        Story crashed = Story.eight(SLEEPING).crash(8);
+        int time = crashed.told().total(5);
+        Story alone = crashed.clear(0, 12).program(0, Code.call(Code.PIPE), Code.set(0, 0), Code.call(Code.READ)).boot(0)
+            .run(200, 3);
+        Check.due("no skip", time + 3, alone.told().total(5));
+        Edge.unchanged("no step", alone, alone.run(200, 0));
         Check.sentence("run: TIME skips only when a further one of the n steps is to be done, not behind the n-th; a skip is no step.");
         Story one = Story.boot(Code.set(0, 9), Code.call(Code.SLEEP), Code.set(0, 0), Code.go(0));
         Check.due("behind the n-th", 2, one.run(2).told().total(5));
