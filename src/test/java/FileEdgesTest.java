@@ -21,9 +21,7 @@ public final class FileEdgesTest {
     }
 
     private static Look opened(Look look, int d, int file) {
-        int[] due = {1, file, 0, 1};
-        for (int what = 0; what <= 3; what++) look = look.but(Look.descriptor(1, d, what), due[what]);
-        return look.gave(1, d).more(Look.total(8), 1).more(Look.file(file, 2), 1);
+        return look.gave(1, d).holds(1, d, 1, file, 0, 1).more(Look.total(8), 1).more(Look.file(file, 2), 1);
     }
 
     private static Look made(Look look, int name, int file) {

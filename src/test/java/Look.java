@@ -179,6 +179,33 @@ final class Look {
         return look;
     }
 
+    /** An EXEC: but for sharing of other pages and FREE frames, which depend on who else had its pages. */
+    Look executed(int pid, int program) {
+        Look look = stepped(pid).but(process(pid, 2), program).but(process(pid, 3), 0).but(process(pid, 4), 1);
+        for (int register = 0; register <= 3; register++) look = look.but(process(pid, 10 + register), 0);
+        for (int address = 0; address < 32; address++) look = look.but(memory(pid, address), 0);
+        for (int page = 0; page < 8; page++) look = look.but(sharing(pid, page), page == 0 ? 1 : 0);
+        return look;
+    }
+
+    /** A PIPE that gives these descriptors. */
+    Look piped(int pid, int reader, int writer) {
+        Look look = gave(pid, reader).but(process(pid, 11), writer).more(total(4), 1).more(total(8), 2);
+        return look.holds(pid, reader, 2, -1, 0, 1).holds(pid, writer, 3, -1, 0, 1);
+    }
+
+    /** The answers about a descriptor. */
+    Look holds(int pid, int d, int... answers) {
+        Look look = this;
+        for (int what = 0; what <= 3; what++) look = look.but(descriptor(pid, d, what), answers[what]);
+        return look;
+    }
+
+    /** A descriptor is free. */
+    Look closed(int pid, int d) {
+        return holds(pid, d, 0, UnixDesk.BAD, UnixDesk.BAD, UnixDesk.BAD);
+    }
+
     /** A crash: no process is left, and names and files are those that were SAFE. */
     Look crashed() {
         Look look = but("crash()", 0).but(total(0), 0).but(total(1), 20).but(total(4), 0).but(total(7), 0).but(total(8), 0);

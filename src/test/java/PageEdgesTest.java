@@ -91,15 +91,16 @@ public final class PageEdgesTest {
 
     private static void sameWords() {
         Check.sentence("gets a FREE one, with the same words, first.");
-        for (int address = 0; address < 4; address++) {
-            // Words 0 to 3 are 5 to 8, in one page of processes 1 and 2.
-            int[][] words = {Code.set(1, 1), Code.set(3, 5)};
+        for (int address = 0; address < 32; address++) {
+            // The words of a page of processes 1 and 2 are 5 to 8.
+            int page = address / 4;
+            int[][] words = Code.join(GROW_7, Code.set(1, 1), Code.set(3, 5), Code.set(2, 4 * page));
             for (int k = 0; k < 4; k++) words = Code.join(words, Code.store(3, 2), Code.add(2, 1), Code.add(3, 1));
-            Story before = Story.boot(words, Code.call(Code.FORK), Code.zero(0, 17), Code.call(Code.WAIT), Code.set(2, address),
-                Code.set(3, 99), Code.store(3, 2)).until(2, 19);
-            for (int k = 0; k < 4; k++) Check.due("word " + k, 5 + k, before.told().memory(2, k));
+            words = Code.join(words, Code.call(Code.FORK), Code.zero(0, 20), Code.call(Code.WAIT));
+            Story before = Story.boot(words, Code.set(2, address), Code.set(3, 99), Code.store(3, 2)).until(2, 22);
+            for (int k = 0; k < 4; k++) Check.due("word " + k, 5 + k, before.told().memory(2, 4 * page + k));
             Look due = Look.at(before).went(2).but(Look.memory(2, address), 99).but(Look.process(2, 8), 1);
-            due = due.more(Look.total(1), -1).but(Look.sharing(1, 0), 1).but(Look.sharing(2, 0), 1);
+            due = due.more(Look.total(1), -1).but(Look.sharing(1, page), 1).but(Look.sharing(2, page), 1);
             due.due("STORE at " + address, before.run(1));
         }
     }
@@ -111,7 +112,7 @@ public final class PageEdgesTest {
             Code.add(2, 1), Code.set(3, 32), Code.sub(3, 2), Code.zero(3, 9), Code.go(3), Code.call(Code.EXEC, 5)).boot(0)
             .run(3 + 32 * 6 - 1 + 1);
         for (int address = 0; address < 32; address++) Check.due("word " + address, 1, ones.told().memory(1, address));
-        executed(Look.at(ones), 1, 5).but(Look.total(1), 19).due("EXEC", ones.run(1));
+        Look.at(ones).executed(1, 5).but(Look.total(1), 19).due("EXEC", ones.run(1));
         Story grows = ones.run(2);
         grown(grows, 7).due("GROW", grows.run(1));
         UnixDesk x = ones.crash(1).boot(5).run(2).told();
@@ -162,14 +163,6 @@ public final class PageEdgesTest {
         }
     }
 
-    private static Look executed(Look look, int pid, int program) {
-        look = look.stepped(pid).but(Look.process(pid, 2), program).but(Look.process(pid, 3), 0).but(Look.process(pid, 4), 1);
-        for (int register = 0; register <= 3; register++) look = look.but(Look.process(pid, 10 + register), 0);
-        for (int address = 0; address < 32; address++) look = look.but(Look.memory(pid, address), 0);
-        for (int page = 0; page < 8; page++) look = look.but(Look.sharing(pid, page), page == 0 ? 1 : 0);
-        return look;
-    }
-
     private static void execs() {
         Check.sentence("5 EXEC program R0 (0..5): its pages go, it has one of zeros (KILLED if there is no FREE frame then), "
             + "registers 0, and goes on at instruction 0 of it.");
@@ -181,7 +174,7 @@ public final class PageEdgesTest {
         }
         for (int program = 0; program <= 5; program++) {
             Story before = Story.boot(Code.join(life), Code.call(Code.EXEC, program)).run(9);
-            executed(Look.at(before), 1, program).more(Look.total(1), 1).due("EXEC " + program, before.run(1));
+            Look.at(before).executed(1, program).more(Look.total(1), 1).due("EXEC " + program, before.run(1));
         }
         Story empty = Story.boot(Code.set(0, 4), Code.call(Code.EXEC)).run(2);
         Look.at(empty).stepped(1).gone(1).more(Look.total(1), 1).due("an empty program ends at once", empty.run(1));
@@ -189,9 +182,9 @@ public final class PageEdgesTest {
         Story copied = Story.boot(Code.call(Code.PIPE), Code.call(Code.FORK), Code.store(0, 1), Code.call(Code.EXEC, 3)).run(4);
         Check.due("copied", 1, copied.told().process(1, 8));
         // R1 is the end for writing: address 1.
-        executed(Look.at(copied), 1, 3).due("EXEC behind a copy", copied.run(1));
+        Look.at(copied).executed(1, 3).due("EXEC behind a copy", copied.run(1));
         Story shared = Story.boot(Code.call(Code.FORK), Code.call(Code.EXEC, 3)).run(2);
-        Look due = executed(Look.at(shared), 1, 3).more(Look.total(1), -1).but(Look.sharing(2, 0), 1);
+        Look due = Look.at(shared).executed(1, 3).more(Look.total(1), -1).but(Look.sharing(2, 0), 1);
         due.due("EXEC with a shared page", shared.run(1));
     }
 
@@ -199,18 +192,18 @@ public final class PageEdgesTest {
         Check.sentence("(KILLED if there is no FREE frame then)");
         Story own = frames(Code.call(Code.GROW, 3), Code.call(Code.EXEC, 5)).run(3);
         Check.due("FREE", 0, own.told().total(1));
-        executed(Look.at(own), 1, 5).but(Look.total(1), 3).due("its own pages are FREE then", own.run(1));
+        Look.at(own).executed(1, 5).but(Look.total(1), 3).due("its own pages are FREE then", own.run(1));
         // Process 4 has 3 pages of its own: process 1 has the 20th frame.
         Story one = frames(Code.call(Code.FORK), Code.zero(0, 17), Code.call(Code.SLEEP, 60), Code.call(Code.EXEC, 5),
             Code.store(0, 1), Code.call(Code.GROW, 2), SLEEPING).until(1, 16);
         Check.due("FREE", 0, one.told().total(1));
         Check.due("one page", 1, one.told().process(1, 4));
-        executed(Look.at(one), 1, 5).due("its own page is FREE then", one.run(1));
+        Look.at(one).executed(1, 5).due("its own page is FREE then", one.run(1));
         // Process 4 shares 2 of its pages with process 1 and has one of its own.
         Story some = frames(Code.call(Code.GROW, 2), Code.call(Code.FORK), Code.zero(0, 16), Code.call(Code.WAIT),
             Code.store(0, 1), Code.call(Code.EXEC, 5)).until(4, 18);
         Check.due("FREE", 0, some.told().total(1));
-        Look due = executed(Look.at(some), 4, 5).but(Look.sharing(1, 1), 1).but(Look.sharing(1, 2), 1);
+        Look due = Look.at(some).executed(4, 5).but(Look.sharing(1, 1), 1).but(Look.sharing(1, 2), 1);
         due.due("one of its pages is FREE then", some.run(1));
         Check.sentence("EXEC that is KILLED: program and registers of the process stay as they were.");
         Story none = frames(Code.call(Code.GROW, 3), Code.call(Code.FORK), Code.zero(0, 16), Code.call(Code.WAIT),

@@ -16,29 +16,12 @@ public final class PipeEdgesTest {
         return code;
     }
 
-    private static Look end(Look look, int pid, int d, int kind) {
-        look = look.but(Look.descriptor(pid, d, 0), kind).but(Look.descriptor(pid, d, 1), -1);
-        return look.but(Look.descriptor(pid, d, 2), 0).but(Look.descriptor(pid, d, 3), 1);
-    }
-
-    private static Look free(Look look, int pid, int d) {
-        look = look.but(Look.descriptor(pid, d, 0), 0);
-        for (int what = 1; what <= 3; what++) look = look.but(Look.descriptor(pid, d, what), Edge.BAD);
-        return look;
-    }
-
-    private static Look piped(Story before, int reader, int writer) {
-        Look due = Look.at(before).gave(1, reader).but(Look.process(1, 11), writer);
-        due = due.more(Look.total(4), 1).more(Look.total(8), 2);
-        return end(end(due, 1, reader, 2), 1, writer, 3);
-    }
-
     private static void descriptors() {
         Check.sentence("6 DESCRIPTORS 0..5 (each an OPEN FILE, or free)");
         for (int used = 0; used <= 6; used++) {
             Story before = Story.boot(opens(used), Code.call(Code.PIPE)).run(1 + 2 * used);
             if (used <= 4) {
-                piped(before, used, used + 1).due(used + " are used", before.run(1));
+                Look.at(before).piped(1, used, used + 1).due(used + " are used", before.run(1));
             } else {
                 Edge.refused(used + " are used", before, 1);
             }
@@ -59,7 +42,7 @@ public final class PipeEdgesTest {
         for (int[] c : closed) {
             Story before = Story.boot(opens(6), Code.call(Code.CLOSE, c[1]), Code.call(Code.CLOSE, c[0]), Code.call(Code.PIPE))
                 .run(17);
-            piped(before, c[0], c[1]).due(c[0] + " and " + c[1] + " are free", before.run(1));
+            Look.at(before).piped(1, c[0], c[1]).due(c[0] + " and " + c[1] + " are free", before.run(1));
         }
     }
 
@@ -67,7 +50,7 @@ public final class PipeEdgesTest {
         Check.sentence("Pipes (4) hold 4 words each");
         for (int others = 0; others <= 2; others++) {
             Story before = Story.three(pipes(others), pipes(1), Code.set(1, 44), Code.call(Code.PIPE)).run(1);
-            piped(before, 0, 1).due("one more than " + (others + 1), before.run(1));
+            Look.at(before).piped(1, 0, 1).due("one more than " + (others + 1), before.run(1));
         }
         Story full = Story.three(pipes(3), pipes(1), Code.set(1, 44), Code.call(Code.PIPE)).run(1);
         Check.due("pipes", 4, full.told().total(4));
@@ -79,15 +62,13 @@ public final class PipeEdgesTest {
         Check.sentence("There are at most 12 open files, each end is one.");
         Story ten = Story.three(opens(6), opens(4), Code.set(1, 44), Code.call(Code.PIPE)).run(1);
         Check.due("open files", 10, ten.told().total(8));
-        piped(ten, 0, 1).due("10, and two ends", ten.run(1));
+        Look.at(ten).piped(1, 0, 1).due("10, and two ends", ten.run(1));
         Story eleven = Story.three(opens(6), opens(5), Code.set(1, 44), Code.call(Code.PIPE)).run(1);
         Check.due("open files", 11, eleven.told().total(8));
         Edge.refused("11, and no two ends", eleven, 1);
         Story last = Story.three(opens(6), opens(5), (Object) Code.call(Code.OPEN, 0, 3)).run(2);
         Look due = Look.at(last).gave(1, 0).but(Look.total(8), 12).but(Look.file(0, 2), 12);
-        int[] opened = {1, 0, 0, 1};
-        for (int what = 0; what <= 3; what++) due = due.but(Look.descriptor(1, 0, what), opened[what]);
-        due.due("11, and OPEN", last.run(1));
+        due.holds(1, 0, 1, 0, 0, 1).due("11, and OPEN", last.run(1));
         Edge.refused("12, and PIPE", Story.three(opens(6), opens(6), Code.call(Code.PIPE)), 1);
         int[][] word = Code.join(opens(6), Code.call(Code.WRITE, 0, 9));
         for (int[] open : new int[][] {{0, 3}, {0, 7}, {0, 10}, {0, 15}, {1, 7}, {7, 14}}) {
@@ -100,9 +81,7 @@ public final class PipeEdgesTest {
         Story dup = Story.three(opens(6), opens(5), Code.call(Code.OPEN, 0, 3), Code.call(Code.DUP, 0), Code.call(Code.FORK));
         Story before = dup.run(4);
         due = Look.at(before).gave(1, 1).but(Look.descriptor(1, 0, 3), 2);
-        int[] same = {1, 0, 0, 2};
-        for (int what = 0; what <= 3; what++) due = due.but(Look.descriptor(1, 1, what), same[what]);
-        due.due("12, and DUP", before.run(1));
+        due.holds(1, 1, 1, 0, 0, 2).due("12, and DUP", before.run(1));
         UnixDesk x = before.run(2).told();
         Check.due("12, and FORK", 4, x.total(0));
         Check.due("open files", 12, x.total(8));
@@ -127,7 +106,7 @@ public final class PipeEdgesTest {
     private static void anyTwoOpenFiles() {
         Check.sentence("There are at most 12 open files, each end is one.");
         Story ten = eldestIsClosed(10, new int[][] {Code.call(Code.PIPE)});
-        piped(ten, 0, 1).due("10, and two ends", ten.run(1));
+        Look.at(ten).piped(1, 0, 1).due("10, and two ends", ten.run(1));
         Edge.refused("11, and no two ends", eldestIsClosed(11, new int[][] {Code.call(Code.PIPE)}), 1);
         Story eleven = eldestIsClosed(11, Code.call(Code.OPEN, 0, 3)).run(1);
         Check.due("11, and OPEN", 0, eleven.told().process(1, 10));
@@ -149,20 +128,20 @@ public final class PipeEdgesTest {
         Check.sentence("one is no more if it has no open end");
         Story both = Story.boot(Code.call(Code.PIPE), Code.call(Code.DUP, 0), Code.call(Code.CLOSE, 0), Code.call(Code.CLOSE, 2),
             Code.call(Code.CLOSE, 1)).run(4);
-        Look due = free(Look.at(both).gave(1, 0), 1, 0).but(Look.descriptor(1, 2, 3), 1);
+        Look due = Look.at(both).gave(1, 0).closed(1, 0).but(Look.descriptor(1, 2, 3), 1);
         due.due("one of two descriptors of an end", both.run(1));
         Story one = both.run(2);
-        free(Look.at(one).gave(1, 0), 1, 2).but(Look.total(8), 1).due("one end is closed", one.run(1));
+        Look.at(one).gave(1, 0).closed(1, 2).but(Look.total(8), 1).due("one end is closed", one.run(1));
         Story none = one.run(2);
-        free(Look.at(none).gave(1, 0), 1, 1).but(Look.total(8), 0).but(Look.total(4), 0).due("both are", none.run(1));
+        Look.at(none).gave(1, 0).closed(1, 1).but(Look.total(8), 0).but(Look.total(4), 0).due("both are", none.run(1));
         // The writing end first.
         Story other = Story.boot(Code.call(Code.PIPE), Code.call(Code.CLOSE, 1), Code.call(Code.CLOSE, 0)).run(2);
-        free(Look.at(other).gave(1, 0), 1, 1).but(Look.total(8), 1).due("the end for writing is closed", other.run(1));
+        Look.at(other).gave(1, 0).closed(1, 1).but(Look.total(8), 1).due("the end for writing is closed", other.run(1));
         Story gone = other.run(2);
-        free(Look.at(gone).gave(1, 0), 1, 0).but(Look.total(8), 0).but(Look.total(4), 0).due("both are", gone.run(1));
+        Look.at(gone).gave(1, 0).closed(1, 0).but(Look.total(8), 0).but(Look.total(4), 0).due("both are", gone.run(1));
         Check.sentence("an open file is no more only when no descriptor of any process has it");
         Story shared = Story.boot(Code.call(Code.PIPE), Code.call(Code.FORK), Code.call(Code.CLOSE, 1)).run(3);
-        due = free(Look.at(shared).gave(1, 0), 1, 1).but(Look.descriptor(2, 1, 3), 1);
+        due = Look.at(shared).gave(1, 0).closed(1, 1).but(Look.descriptor(2, 1, 3), 1);
         due.due("another process has it", shared.run(1));
         Check.sentence("CLOSE makes the descriptor free, EXIT all those of the process");
         Story exit = Story.child(Code.call(Code.PIPE), Code.call(Code.DUP, 1), opens(1), Code.call(Code.EXIT)).run(6);
@@ -198,18 +177,14 @@ public final class PipeEdgesTest {
                 Edge.refused("none is free", before, 1);
             } else {
                 Look due = Look.at(before).gave(1, used).but(Look.descriptor(1, used - 1, 3), 2);
-                int[] same = {1, 0, 0, 2};
-                for (int what = 0; what <= 3; what++) due = due.but(Look.descriptor(1, used, what), same[what]);
-                due.due("DUP of " + (used - 1), before.run(1));
+                due.holds(1, used, 1, 0, 0, 2).due("DUP of " + (used - 1), before.run(1));
             }
         }
         Check.sentence("DUP gives the descriptor that it took.");
         for (int d = 0; d <= 5; d++) {
             Story one = Story.boot(opens(6), Code.call(Code.CLOSE, d), Code.call(Code.DUP, (d + 1) % 6)).run(16);
             Look due = Look.at(one).gave(1, d).but(Look.descriptor(1, (d + 1) % 6, 3), 2);
-            int[] same = {1, 0, 0, 2};
-            for (int what = 0; what <= 3; what++) due = due.but(Look.descriptor(1, d, what), same[what]);
-            due.due("only " + d + " is free", one.run(1));
+            due.holds(1, d, 1, 0, 0, 2).due("only " + d + " is free", one.run(1));
         }
         Story between = Story.boot(opens(6), Code.call(Code.CLOSE, 2), Code.call(Code.CLOSE, 4), Code.call(Code.DUP, 5),
             Code.call(Code.DUP, 5), Code.call(Code.DUP, 5)).run(19);
@@ -309,7 +284,7 @@ public final class PipeEdgesTest {
         Look.at(word).gave(1, 1).but(Look.process(2, 0), 1).due("a word comes", word.run(1));
         Edge.gives("the word", word.run(2), 2, 1);
         Story end = blockedChild(Code.call(Code.CLOSE, 1), reads);
-        Look due = free(Look.at(end).gave(1, 0), 1, 1).but(Look.total(8), 1).but(Look.process(2, 0), 1);
+        Look due = Look.at(end).gave(1, 0).closed(1, 1).but(Look.total(8), 1).but(Look.process(2, 0), 1);
         due.due("the last end for writing goes", end.run(1));
         Edge.gives("the end", end.run(2), 2, 0);
         // Process 2 writes until the pipe is full.
@@ -318,7 +293,7 @@ public final class PipeEdgesTest {
         Look.at(room).gave(1, 1).but(Look.process(2, 0), 1).due("there is room", room.run(1));
         Edge.gives("the word that waited", room.run(2), 2, 1);
         Story broken = blockedChild(Code.call(Code.CLOSE, 0), writes);
-        due = free(Look.at(broken).gave(1, 0), 1, 0).but(Look.total(8), 1).but(Look.process(2, 0), 1);
+        due = Look.at(broken).gave(1, 0).closed(1, 0).but(Look.total(8), 1).but(Look.process(2, 0), 1);
         due.due("the last end for reading goes", broken.run(1));
         due = Look.at(broken.run(2)).went(2).zombie(2, -1).but(Look.process(1, 0), 1).but(Look.sharing(1, 0), 1);
         due.but(Look.descriptor(1, 1, 3), 1).due("KILLED then", broken.run(3));

@@ -34,6 +34,10 @@ public final class ProcessEdgesTest {
         Story copied = Story.boot(Code.call(Code.FORK), Code.store(0, 1), Code.call(Code.FORK), Code.go(3)).run(2);
         Check.due("process 1 copied a page", 1, copied.told().process(1, 8));
         Look.at(copied).forked(1, 3, 2).due("FORK behind a copy", copied.run(1));
+        // It is READY, also if its first step is BLOCKED: R0 of it is 0, the end for reading.
+        Story reader = Story.boot(Code.call(Code.PIPE), Code.call(Code.FORK), Code.call(Code.READ), Code.call(Code.WAIT)).run(1);
+        Look.at(reader).forked(1, 2, 1).due("FORK before a READ", reader.run(1));
+        Edge.blocks("the first step of it", reader.run(3), 2);
         // A slot, and a process in it, that was used before has no steps, copies or status either.
         Story used = Story.boot(Code.call(Code.FORK), Code.zero(0, 6), Code.call(Code.WAIT), Code.call(Code.FORK), Code.go(4),
             Code.go(4), Code.store(2, 2), Code.call(Code.EXIT, 9)).until(1, 3);

@@ -123,6 +123,12 @@ public final class TurnEdgesTest {
         // One of them is READY: no skip.
         Story ready = Story.boot(Code.call(Code.FORK), Code.zero(0, 5), Code.call(Code.SLEEP, 500), Code.go(4), Code.go(5));
         Check.due("TIME", 200, ready.run(200).told().total(5));
+        // A ZOMBIE that was KILLED in its SLEEP sleeps no more.
+        Story zombie = Story.boot(Code.call(Code.FORK), Code.zero(0, 9), Code.call(Code.SLEEP, 20), Code.call(Code.KILL, 2),
+            Code.call(Code.PIPE), Code.set(0, 0), Code.call(Code.READ), SLEEPING).until(1, 8);
+        Check.due("2 is a ZOMBIE", 3, zombie.told().process(2, 0));
+        Edge.blocks("READ", zombie, 1);
+        Edge.unchanged("no skip to a ZOMBIE", zombie.run(1), zombie.run(1).run(200, 0));
         // Those that slept before a crash are no more: TIME does not skip to when they would be READY.
         Story crashed = Story.eight(SLEEPING).crash(8);
         int time = crashed.told().total(5);
