@@ -7,12 +7,6 @@ public final class CallEdgesTest {
     private static int refused = 0;
     private static int blocked = 0;
 
-    private static int[][] opens(int count) {
-        int[][] code = {Code.set(1, 7)};
-        for (int k = 0; k < count; k++) code = Code.join(code, Code.set(0, 0), Code.call(Code.OPEN));
-        return code;
-    }
-
     /** Process 1 has nothing but its page. */
     private static Story poor(int call, int r0, int r1) {
         return Edge.atCall(call, r0, r1);
@@ -28,7 +22,7 @@ public final class CallEdgesTest {
     /** No frame is FREE, and there are 12 open files. */
     private static Story full(int call, int r0, int r1) {
         int[][] grow = Code.call(Code.GROW, 7);
-        return Story.three(Code.join(opens(6), grow), Code.join(opens(5), grow), Code.call(Code.OPEN, 0, 3),
+        return Story.three(Code.join(Code.opens(6), grow), Code.join(Code.opens(5), grow), Code.call(Code.OPEN, 0, 3),
             Code.call(Code.GROW, 3), Code.set(0, r0), Code.set(1, r1), Code.call(call)).run(7);
     }
 

@@ -25,6 +25,13 @@ final class Code {
         return new int[][] {set(R0, r0), set(R1, r1), call(number)};
     }
 
+    /** So many open files of name 0, each at the least free descriptor. */
+    static int[][] opens(int count) {
+        int[][] code = {set(R1, 7)};
+        for (int k = 0; k < count; k++) code = join(code, set(R0, 0), call(OPEN));
+        return code;
+    }
+
     static int[][] join(Object... parts) {
         java.util.List<int[]> all = new java.util.ArrayList<>();
         for (Object part : parts) {

@@ -48,8 +48,8 @@ public final class EverySlotTest {
     }
 
     private static void pipes(int n) {
-        Story pipe = deep(n, Code.call(Code.PIPE), Code.call(Code.WRITE, 1, 70 + n), Code.call(Code.DUP, 0),
-            Code.call(Code.READ, 0), Code.call(Code.CLOSE, 2), Code.call(Code.READ, 0));
+        Story pipe = deep(n, Code.set(1, 50), Code.call(Code.PIPE), Code.call(Code.WRITE, 1, 70 + n),
+            Code.call(Code.DUP, 0), Code.call(Code.READ, 0), Code.call(Code.CLOSE, 2), Code.call(Code.READ, 0)).run(1);
         Look.at(pipe).piped(n, 0, 1).due("PIPE", pipe.run(1));
         Story write = pipe.run(3);
         Edge.gives("WRITE", write, n, 1);

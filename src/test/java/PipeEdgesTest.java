@@ -3,13 +3,6 @@ public final class PipeEdgesTest {
     private static final int MIN = Edge.MIN, MAX = Edge.MAX;
     private static final int[] NO_DESCRIPTOR = {-1, 6, MIN, MAX};
 
-    /** So many open files of name 0, which are its descriptors from the least free one on. */
-    private static int[][] opens(int count) {
-        int[][] code = {Code.set(1, 7)};
-        for (int k = 0; k < count; k++) code = Code.join(code, Code.set(0, 0), Code.call(Code.OPEN));
-        return code;
-    }
-
     private static int[][] pipes(int count) {
         int[][] code = {};
         for (int k = 0; k < count; k++) code = Code.join(code, Code.call(Code.PIPE));
@@ -19,7 +12,7 @@ public final class PipeEdgesTest {
     private static void descriptors() {
         Check.sentence("6 DESCRIPTORS 0..5 (each an OPEN FILE, or free)");
         for (int used = 0; used <= 6; used++) {
-            Story before = Story.boot(opens(used), Code.call(Code.PIPE)).run(1 + 2 * used);
+            Story before = Story.boot(Code.opens(used), Code.call(Code.PIPE)).run(1 + 2 * used);
             if (used <= 4) {
                 Look.at(before).piped(1, used, used + 1).due(used + " are used", before.run(1));
             } else {
@@ -40,7 +33,7 @@ public final class PipeEdgesTest {
         Check.sentence("6 PIPE: the two least free descriptors, R0 and R1, are the ends of a new pipe for reading and writing.");
         int[][] closed = {{0, 1}, {1, 4}, {0, 5}, {4, 5}, {2, 3}};
         for (int[] c : closed) {
-            Story before = Story.boot(opens(6), Code.call(Code.CLOSE, c[1]), Code.call(Code.CLOSE, c[0]), Code.call(Code.PIPE))
+            Story before = Story.boot(Code.opens(6), Code.call(Code.CLOSE, c[1]), Code.call(Code.CLOSE, c[0]), Code.call(Code.PIPE))
                 .run(17);
             Look.at(before).piped(1, c[0], c[1]).due(c[0] + " and " + c[1] + " are free", before.run(1));
         }
@@ -60,25 +53,25 @@ public final class PipeEdgesTest {
 
     private static void twelveOpenFiles() {
         Check.sentence("There are at most 12 open files, each end is one.");
-        Story ten = Story.three(opens(6), opens(4), Code.set(1, 44), Code.call(Code.PIPE)).run(1);
+        Story ten = Story.three(Code.opens(6), Code.opens(4), Code.set(1, 44), Code.call(Code.PIPE)).run(1);
         Check.due("open files", 10, ten.told().total(8));
         Look.at(ten).piped(1, 0, 1).due("10, and two ends", ten.run(1));
-        Story eleven = Story.three(opens(6), opens(5), Code.set(1, 44), Code.call(Code.PIPE)).run(1);
+        Story eleven = Story.three(Code.opens(6), Code.opens(5), Code.set(1, 44), Code.call(Code.PIPE)).run(1);
         Check.due("open files", 11, eleven.told().total(8));
         Edge.refused("11, and no two ends", eleven, 1);
-        Story last = Story.three(opens(6), opens(5), (Object) Code.call(Code.OPEN, 0, 3)).run(2);
+        Story last = Story.three(Code.opens(6), Code.opens(5), (Object) Code.call(Code.OPEN, 0, 3)).run(2);
         Look due = Look.at(last).gave(1, 0).but(Look.total(8), 12).but(Look.file(0, 2), 12);
         due.holds(1, 0, 1, 0, 0, 1).due("11, and OPEN", last.run(1));
-        Edge.refused("12, and PIPE", Story.three(opens(6), opens(6), Code.call(Code.PIPE)), 1);
-        int[][] word = Code.join(opens(6), Code.call(Code.WRITE, 0, 9));
+        Edge.refused("12, and PIPE", Story.three(Code.opens(6), Code.opens(6), Code.call(Code.PIPE)), 1);
+        int[][] word = Code.join(Code.opens(6), Code.call(Code.WRITE, 0, 9));
         for (int[] open : new int[][] {{0, 3}, {0, 7}, {0, 10}, {0, 15}, {1, 7}, {7, 14}}) {
-            Story full = Story.three(word, opens(6), (Object) Code.call(Code.OPEN, open[0], open[1])).run(2);
+            Story full = Story.three(word, Code.opens(6), (Object) Code.call(Code.OPEN, open[0], open[1])).run(2);
             Check.due("open files", 12, full.told().total(8));
             Check.due("size", 1, full.told().file(0, 0));
             Edge.refused("12, and OPEN of " + open[0] + " with " + open[1], full, 1);
         }
         // DUP and FORK need no further open file.
-        Story dup = Story.three(opens(6), opens(5), Code.call(Code.OPEN, 0, 3), Code.call(Code.DUP, 0), Code.call(Code.FORK));
+        Story dup = Story.three(Code.opens(6), Code.opens(5), Code.call(Code.OPEN, 0, 3), Code.call(Code.DUP, 0), Code.call(Code.FORK));
         Story before = dup.run(4);
         due = Look.at(before).gave(1, 1).but(Look.descriptor(1, 0, 3), 2);
         due.holds(1, 1, 1, 0, 0, 2).due("12, and DUP", before.run(1));
@@ -95,7 +88,7 @@ public final class PipeEdgesTest {
     private static Story eldestIsClosed(int others, int[][] call) {
         int[][] close = Code.call(Code.CLOSE, 0);
         int[][] sleep = Code.call(Code.SLEEP, 1000);
-        Story story = Story.begin().program(1, close, opens(6), sleep).program(2, close, opens(others - 6), sleep)
+        Story story = Story.begin().program(1, close, Code.opens(6), sleep).program(2, close, Code.opens(others - 6), sleep)
             .program(0, Code.set(1, 7), Code.call(Code.OPEN), Code.call(Code.FORK), Code.zero(0, 11), Code.call(Code.FORK),
                 Code.zero(0, 13), Code.call(Code.SLEEP, 200), Code.call(Code.CLOSE), Code.set(2, 0), Code.go(15),
                 Code.call(Code.EXEC, 1), Code.call(Code.EXEC, 2), call).boot(0).until(1, 14 + call.length);
@@ -144,7 +137,7 @@ public final class PipeEdgesTest {
         due = Look.at(shared).gave(1, 0).closed(1, 1).but(Look.descriptor(2, 1, 3), 1);
         due.due("another process has it", shared.run(1));
         Check.sentence("CLOSE makes the descriptor free, EXIT all those of the process");
-        Story exit = Story.child(Code.call(Code.PIPE), Code.call(Code.DUP, 1), opens(1), Code.call(Code.EXIT)).run(6);
+        Story exit = Story.child(Code.call(Code.PIPE), Code.call(Code.DUP, 1), Code.opens(1), Code.call(Code.EXIT)).run(6);
         Check.due("open files", 3, exit.told().total(8));
         due = Look.at(exit).went(2).zombie(2, 3).but(Look.process(1, 0), 1).but(Look.sharing(1, 0), 1);
         due.but(Look.total(4), 0).but(Look.total(8), 0).but(Look.file(0, 2), 0).due("EXIT", exit.run(1));
@@ -172,7 +165,7 @@ public final class PipeEdgesTest {
     private static void dups() {
         Check.sentence("10 DUP R0: the least free descriptor is the same open file.");
         for (int used = 1; used <= 6; used++) {
-            Story before = Story.boot(opens(used), Code.call(Code.DUP, used - 1)).run(2 + 2 * used);
+            Story before = Story.boot(Code.opens(used), Code.call(Code.DUP, used - 1)).run(2 + 2 * used);
             if (used == 6) {
                 Edge.refused("none is free", before, 1);
             } else {
@@ -182,11 +175,11 @@ public final class PipeEdgesTest {
         }
         Check.sentence("DUP gives the descriptor that it took.");
         for (int d = 0; d <= 5; d++) {
-            Story one = Story.boot(opens(6), Code.call(Code.CLOSE, d), Code.call(Code.DUP, (d + 1) % 6)).run(16);
+            Story one = Story.boot(Code.opens(6), Code.call(Code.CLOSE, d), Code.call(Code.DUP, (d + 1) % 6)).run(16);
             Look due = Look.at(one).gave(1, d).but(Look.descriptor(1, (d + 1) % 6, 3), 2);
             due.holds(1, d, 1, 0, 0, 2).due("only " + d + " is free", one.run(1));
         }
-        Story between = Story.boot(opens(6), Code.call(Code.CLOSE, 2), Code.call(Code.CLOSE, 4), Code.call(Code.DUP, 5),
+        Story between = Story.boot(Code.opens(6), Code.call(Code.CLOSE, 2), Code.call(Code.CLOSE, 4), Code.call(Code.DUP, 5),
             Code.call(Code.DUP, 5), Code.call(Code.DUP, 5)).run(19);
         UnixDesk x = between.told();
         Check.due("the least free one", 2, x.process(1, 10));
